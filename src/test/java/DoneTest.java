@@ -145,25 +145,37 @@ final class DoneTest {
         // 3960563 modulo 7 is 5, less 3
         Due.due("the gust", x.book(1, 6), -18);
         Due.due("one draw too", x.look(6), 1013904223);
+        x.set(2, 0, 1);
+        x.state(0);
+        x.throwIt(20, 30, 0, 0);
+        x.set(2, 0, 0);
+        x.set(3, 0, 1);
+        x.state(0);
+        x.throwIt(20, 30, 0, 0);
+        // 3960563 modulo 3 is 2, less 1
+        Due.due("a gust of 1", x.book(2, 6), -19);
+        Due.due("a slip of 1", x.book(3, 5), 31);
+        x.set(2, 0, 3);
+        x.meet();
         x.set(3, 0, 9);
         x.state(0);
         x.throwIt(20, 0, 0, 0);
         // 3960563 modulo 19 is 13, less 9; the next draw is the gust's
-        Due.due("a greater slip", x.book(2, 5), 4);
+        Due.due("a greater slip", x.book(4, 5), 4);
         int state = 1013904223 * 1664525 + 1013904223;
         Due.due("two draws", x.look(6), state);
-        Due.due("the second is the wind's", x.book(2, 6), -20 + (state >>> 8) % 7 - 3);
+        Due.due("the second is the wind's", x.book(4, 6), -20 + (state >>> 8) % 7 - 3);
         Due.law(x, 1, "over 1;", 1);
         x.state(0);
         x.throwIt(20, 60, 0, 0);
-        Due.due("the first is over's", x.book(3, 5), 60 + (state >>> 8) % 19 - 9);
+        Due.due("the first is over's", x.book(5, 5), 60 + (state >>> 8) % 19 - 9);
         for (int i = 0; i < 60; i++) {
             if (x.look(2) == 6) {
                 x.meet();
             }
             x.throwIt(20, 0, 0, 0);
-            Due.due("not below 0", x.book(4 + i, 5) >= 0 && x.book(4 + i, 5) <= 9, true);
-            Due.due("the gust's bounds", x.book(4 + i, 6) >= -23 && x.book(4 + i, 6) <= -17, true);
+            Due.due("not below 0", x.book(6 + i, 5) >= 0 && x.book(6 + i, 5) <= 9, true);
+            Due.due("the gust's bounds", x.book(6 + i, 6) >= -23 && x.book(6 + i, 6) <= -17, true);
         }
     }
 
@@ -365,6 +377,17 @@ final class DoneTest {
         y.throwIt(20, 30, 0, 0);
         y.days(1);
         Due.due("10 and 4 and 100", y.of(0, 1), 386);
+        Due.law(y, 1, "mend force+pace+angle+5;", 1);
+        y.throwIt(20, 30, 0, 3);
+        y.days(1);
+        Due.due("no throw is asked", y.of(0, 1), 381);
+        Due.law(y, 0, "dip 9;drag 40 when tick=0;", 2);
+        y.meet();
+        y.throwIt(30, 0, 0, 0);
+        Due.due("300 cm", y.of(0, 2), 300);
+        Due.law(y, 1, "mend best;", 1);
+        y.days(1);
+        Due.due("300 by 100 is 3", y.of(0, 1), 378);
     }
 
     private static void undo() {
@@ -476,6 +499,7 @@ final class DoneTest {
     private static void image() {
         PointFirst x = Due.ready();
         Due.due("none", x.image(false), false);
+        Due.law(x, 0, "dip 5;drag wind when wind>0;", 2);
         Due.law(x, 1, "wear 7;", 1);
         Due.law(x, 3, "gain 1;", 1);
         Due.plan(x, 0, "throw 20 at 30 with 0;throw 30 at 30 with 0;", 2);
@@ -492,6 +516,7 @@ final class DoneTest {
             Due.tell(x, 1, 0, "wear 9;wear 1;");
             Due.tell(x, 3, 0, "gain 9;gain 8;");
             Due.tell(x, 2, 0, "pass;pass;pass;");
+            x.gust(-100);
             x.gust(-3);
             x.spear(9, 9);
             x.set(0, 0, 20);
@@ -503,7 +528,12 @@ final class DoneTest {
             x.days(9);
             x.meet();
             x.thrower(44);
+            x.set(6, 1, 44);
+            Due.tell(x, 2, 1, "throw 20 at 30 with 0;throw 30 at 30 with 0;");
             x.throwIt(1, 1, 1, 1);
+            x.turnsGo(1);
+            x.throwIt(1, 1, 1, 1);
+            x.turnsGo(1);
             Due.put(x, 0, "gain 5;");
             Due.due("gone back", x.image(false), true);
             Due.due("the tape is not of it", x.end(7), true);
@@ -515,6 +545,16 @@ final class DoneTest {
             }
             Due.due("nothing to undo", x.look(9), 0);
         }
+        x.meet();
+        x.throwIt(20, 30, 0, 0);
+        int line = x.look(5) - 1;
+        int force = x.book(line, 4);
+        x.image(true);
+        x.undo();
+        x.throwIt(77, 30, 0, 0);
+        Due.due("another line", x.book(line, 4), 77);
+        x.image(false);
+        Due.due("the line as it was", x.book(line, 4), force);
         x.image(true);
         x.set(0, 0, 5);
         x.image(false);
@@ -525,6 +565,8 @@ final class DoneTest {
         Due.due("a new thrower is new", x.thrower(9), 1);
         Due.due("no plan", x.of(1, 6), 0);
         Due.due("no wear", x.of(1, 1), 0);
+        Due.due("no best", x.of(1, 2), 0);
+        Due.due("not thrown", x.of(1, 3), 0);
     }
 
     private static int[] all(PointFirst x) {

@@ -170,6 +170,7 @@ final class SeenTest {
         x.spear(2, 2);
         Due.due("without one", x.record(0), -1);
         x.throwIt(20, 30, 0, 0);
+        Due.due("line 0", x.record(0), 0);
         x.throwIt(25, 30, 0, 0);
         x.throwIt(25, 30, 0, 0);
         x.throwIt(30, 30, 1, 0);

@@ -103,6 +103,9 @@ final class ThoughtTest {
         Due.due("lift 20", x.fly(10, 0, 0, 0, 0, 0, 4), 190);
         Due.law(x, 0, "lift 0-99;", 1);
         Due.due("lift -20: 30, 60, 90 down", x.fly(10, 0, 0, 0, 0, 0, 3), 3);
+        x.throwIt(10, 0, 0, 0);
+        Due.due("30 down", x.path(0, 1, 1), 150);
+        Due.due("60 more", x.path(0, 2, 1), 90);
         Due.law(x, 0, "drag 99 when tick=0;", 1);
         Due.due("drag 50", x.fly(20, 0, 0, 0, 0, 0, 0), 60);
         Due.law(x, 0, "drag 0-9;", 1);
@@ -126,10 +129,11 @@ final class ThoughtTest {
         Due.due("pitch", x.fly(1, 0, 0, 0, 0, 0, 6), -400);
         Due.due("the far that can be", x.needed(0, 0, 0, 118800), 99);
         Due.due("and no more", x.needed(0, 0, 0, 118801), -1);
-        // 6 ticks: 180 is left behind by 10 20 30 40 50 60, at 30 above 0 it flies on
-        Due.law(x, 0, "lift 10 when height<31;", 1);
-        Due.due("above 0 it flies on, 50 down a tick", x.fly(1, 0, 0, 0, 0, 0, 3), 6);
-        // 135 less 10 20 30 40 is 80.. the landing at 0 itself: 30 up by 20 and 30 as told
+        // 180 less 10, 20, 30, 40, 50, 60 is -30: 15 more in tick 4 and 5 make that 0
+        Due.law(x, 0, "lift 15 when tick=4;", 1);
+        Due.due("0", x.fly(1, 0, 0, 0, 0, 0, 3), 6);
+        Due.law(x, 0, "lift 15 when tick=4;lift 1 when tick=5;", 2);
+        Due.due("1 flies on", x.fly(1, 0, 0, 0, 0, 0, 3), 7);
         Due.law(x, 0, "", 0);
         Due.due("0 is landed", x.fly(20, 30, 0, 0, 0, 0, 3), 9);
     }
@@ -169,6 +173,14 @@ final class ThoughtTest {
         int free = x.angle(99, 0, 0, 1);
         x.set(1, 0, 1);
         Due.due("side as now", x.angle(99, 0, 0, 1) < free, true);
+        x.set(1, 0, 0);
+        // by force 99 the angle 60 alone flies 148 a tick
+        Due.law(x, 0, "dip 9 when fore=148;", 1);
+        Due.due("60 alone", x.angle(99, 0, 0, 0), 60);
+        Due.due("60 alone is safe", x.angle(99, 0, 0, 2), 60);
+        int most60 = x.angle(99, 0, 0, 1);
+        Due.due("99 by 60 alone comes so far", x.leastForce(0, 0, most60, 0), 99);
+        Due.due("that angle", x.leastForce(0, 0, most60, 1), 60);
         Due.law(x, 0, "", 0);
         Due.due("none good", x.angle(20, 0, 0, 0), -1);
         Due.due("none good, far", x.angle(20, 0, 0, 1), -1);
@@ -210,11 +222,24 @@ final class ThoughtTest {
         Due.due("nor far", x.angle(40, 0, 0, 3), -1);
         x.set(3, 0, 8);
         Due.due("0 has 0 to 8", x.angle(40, 0, 0, 2), 0);
+        PointFirst y = Due.ready();
+        Due.law(y, 0, "dip 1 when tick=0;", 1);
+        Due.due("0 alone", y.angle(20, 0, 0, 3), 360);
         // above 60 the slip goes on: 69 at most
         Due.law(x, 0, "dip 9;lift 20 when tick<5;drag 9 when pitch>60 and tick=0;dip 0-9;", 4);
         x.set(3, 0, 9);
         int up = x.angle(30, 0, 0, 2);
         Due.due("a safe one", up >= 0 && up <= 60, true);
+        // what begins below 51 comes 0 far: 60 alone has none such within nine
+        Due.law(x, 0, "dip 9;drag 50 when pitch<51 and tick=0;", 2);
+        Due.due("60 is safe", x.angle(20, 0, 0, 2), 60);
+        Due.due("as far as 69", x.angle(20, 0, 0, 3), x.fly(20, 69, 0, 0, 0, 0, 0));
+        // 0 alone is not good: who has it within three is not safe
+        x.set(3, 0, 3);
+        Due.law(x, 0, "dip 0-9 when fore=60;drag 50 when pitch>6 and tick=0;dip 9;", 3);
+        Due.due("0 is bad", x.fly(20, 0, 0, 0, 0, 0, 5), 0);
+        Due.due("1 is not", x.fly(20, 1, 0, 0, 0, 0, 5), 1);
+        Due.due("so above 3", x.angle(20, 0, 0, 2) > 3, true);
     }
 
     private static void right() {
@@ -232,6 +257,12 @@ final class ThoughtTest {
         Due.due("by wind", x.right(50, 29), 1);
         Due.law(x, 0, "dip 5 when tip=1;", 1);
         Due.due("the only good one", x.right(50, 0), 3);
+        Due.law(x, 0, "dip 5 when tip=0;", 1);
+        Due.due("by force 0", x.right(0, 0), 0);
+        PointFirst y = new PointFirst();
+        y.spear(0, 9);
+        Due.law(y, 0, "dip 5;drag tip;", 2);
+        Due.due("one there is not", y.right(50, 0), 0);
         int[][] bad = {{-1, 0}, {100, 0}, {50, 30}, {50, -30}};
         for (int[] b : bad) {
             Due.due("right refused", x.right(b[0], b[1]), -1);
@@ -258,6 +289,8 @@ final class ThoughtTest {
         Due.due("far most", x.winds(20, 30, 0, Integer.MAX_VALUE, 999), 0);
         x.set(1, 0, 5);
         Due.due("side as now", x.winds(20, 30, 0, 459, 0), 0);
+        Due.law(x, 0, "drag 50 when pitch=31 and tick=0;", 1);
+        Due.due("lie 0", x.winds(20, 30, 0, 459, 0), (1L << 41) - 1);
         int[][] bad = {{-1, 0, 0}, {100, 0, 0}, {1, -1, 0}, {1, 61, 0}, {1, 1, 1}, {1, 1, -1}};
         for (int[] b : bad) {
             Due.due("winds refused", x.winds(b[0], b[1], b[2], 0, 0), -1);
@@ -292,6 +325,8 @@ final class ThoughtTest {
         x.set(3, 0, 9);
         x.state(0);
         x.throwIt(20, 40, 0, 0);
+        Due.law(x, 0, "dip 5;drag 50 when pitch=1+30 and tick=0;", 2);
+        Due.due("lie 0", x.still(0), 459);
         Due.due("by the angle with the slip", x.still(1), x.fly(20, x.book(1, 5), 0, 0, 0, 0, 0));
     }
 
@@ -301,6 +336,7 @@ final class ThoughtTest {
         Due.due("no wear: sixty", x.holds(0, 20, 30), 60);
         Due.law(x, 1, "wear 100;", 1);
         Due.due("ten", x.holds(0, 20, 30), 10);
+        Due.due("the least throw", x.holds(0, 0, 0), 10);
         x.set(6, 0, 1);
         Due.due("the last one counts", x.holds(0, 20, 30), 10);
         x.set(6, 0, 999);
@@ -380,8 +416,13 @@ final class ThoughtTest {
         Due.due("none", x.chance(0, 2600, 6, 30, 0, 0), 0);
         Due.due("by none more", x.chance(0, 2600, 6, 30, 0, 1), 0);
         x.set(6, 0, 0);
-        Due.law(x, 1, "over 1000;", 1);
+        Due.law(x, 1, "over 9999;", 1);
         Due.due("always over", x.chance(0, 2600, 6, 30, 0, 1), 0);
+        Due.due("0 of a million", x.chance(0, 2600, 6, 30, 0, 0), 0);
+        Due.law(x, 1, "over 9999 when thrown=0;over 500;", 2);
+        Due.due("over surely, then half", x.chance(0, 2600, 2, 30, 0, 0), 500000);
+        Due.law(x, 1, "over 1000 when force>54;over 500;", 2);
+        Due.due("54 twice", x.chance(0, 2500, 2, 30, 0, 0), 750000);
         Due.law(x, 1, "over 1000-force*10;", 1);
         Due.due("the hardest is likeliest", x.chance(0, 2600, 1, 30, 0, 1), 99);
         Due.due("990 of a thousand", x.chance(0, 2600, 1, 30, 0, 0), 990000);
@@ -526,6 +567,10 @@ final class ThoughtTest {
         }
         Due.due("held to 0: the least", x.span(1, 0), least);
         Due.due("held to 0: the greatest", x.span(1, 1), most);
+        Due.law(x, 0, "drag 50 when fore=120;drag 1 when wind=1;", 2);
+        Due.due("0 itself", x.span(1, 0), x.fly(40, 0, 0, 0, 0, 0, 0));
+        Due.law(x, 0, "drag 0-9 when fore=120 and wind=0;drag 50 when tick=0;", 2);
+        Due.due("0 itself, the greatest", x.span(1, 1), 720);
         Due.due("line 2", x.span(2, 0), -1);
         Due.due("line -1", x.span(-1, 0), -1);
         Due.due("what 2", x.span(0, 2), -1);
@@ -547,6 +592,9 @@ final class ThoughtTest {
         x.set(5, 0, 95);
         Due.due("99 at most", x.train(0, 12, 1000, 0), 99);
         Due.due("slowly then", x.train(0, 12, 1000, 1), 0);
+        x.set(5, 0, 0);
+        Due.due("from power 0", x.train(0, 1, 10, 0), 1);
+        Due.due("to power 0", x.train(0, 1, 0, 0), 0);
         Due.law(x, 3, "gain 50;", 1);
         x.set(5, 0, 50);
         Due.due("9 a week", x.train(0, 1, 0, 0), 59);
@@ -630,6 +678,9 @@ final class ThoughtTest {
         }
         Due.due("one is left", x.would(0), 459);
         Due.due("a pass alone", x.would(1), 0);
+        Due.plan(x, 0, "pass;throw 20 at 30 with 0;", 2);
+        Due.due("one round is left", x.would(0), 0);
+        Due.plan(x, 0, "throw 20 at 30 with 0;", 1);
         x.pass();
         Due.due("his turn is gone", x.would(0), 0);
         x.pass();
@@ -637,6 +688,11 @@ final class ThoughtTest {
         Due.due("none such", x.would(2), -1);
         Due.due("nor that", x.would(-1), -1);
         x.meet();
+        x.pass();
+        Due.plan(x, 0, "pass;pass;pass;pass;throw 20 at 30 with 0;throw 25 at 30 with 0;", 6);
+        Due.due("five rounds are left", x.would(0), 459);
+        x.meet();
+        Due.plan(x, 0, "throw 20 at 30 with 0;pass;throw 25 at 30 with 0;", 3);
         x.set(3, 0, 9);
         x.set(2, 0, 9);
         Due.law(x, 1, "over 1000;", 1);
@@ -648,7 +704,7 @@ final class ThoughtTest {
         Due.law(x, 1, "wear 500+thrown*500;", 1);
         Due.plan(x, 0, "throw 20 at 30 with 0;throw 25 at 30 with 0;throw 30 at 30 with 0;", 3);
         Due.due("his elbow: two throws", x.would(0), 640);
-        Due.law(x, 1, "wear 1000 when best=4;wear 1000 when round=1;", 2);
+        Due.law(x, 1, "wear 1000 when best=4;", 1);
         Due.due("by the best as it would be", x.would(0), 640);
         Due.law(x, 1, "wear 1000 when round=0;", 1);
         Due.due("by the round as it would be", x.would(0), 459);

@@ -180,7 +180,8 @@ final class ToldTest {
             Due.due("gain " + sum[0], x.train(0, 1, 1000, 0), 50 + Integer.parseInt(sum[1]));
         }
         String[][] whens = {{"1<2", "1"}, {"2<2", "0"}, {"2=2", "1"}, {"1=2", "0"}, {"2>1", "1"}, {"2>2", "0"},
-            {"1=1 or 1=1 and 1=2", "1"}, {"(1=1 or 1=1) and 1=2", "0"}, {"not 1=2 and 1=2", "0"},
+            {"not 1=1", "0"}, {"not 1=2", "1"},
+            {"1<2 and 1=1", "1"}, {"2>1 and 1<2", "1"}, {"1=1 or 1=1 and 1=2", "1"}, {"(1=1 or 1=1) and 1=2", "0"}, {"not 1=2 and 1=2", "0"},
             {"not (1=2 and 1=2)", "1"}, {"not not 1=1", "1"}, {"1=2 or 1=2 or 1=1", "1"},
             {"1=1 and 1=1 and 1=2", "0"}, {"1=2 and 1=2 or 1=1", "1"}, {"not 1=1 or 1=1", "1"},
             {"((1=1))", "1"}, {"1+1=2", "1"}, {"2<1+2", "1"}};
@@ -188,6 +189,8 @@ final class ToldTest {
             Due.law(x, 3, "gain 3 when " + when[0] + ";gain 5;gain 9;", 3);
             Due.due("when " + when[0], x.train(0, 1, 1000, 0), when[1].equals("1") ? 53 : 55);
         }
+        Due.law(x, 3, "gain 9 when 1=2;".repeat(15) + "gain 1+2*3;", 16);
+        Due.due("the sixteenth line", x.train(0, 1, 1000, 0), 57);
         Due.law(x, 3, "gain 3 when 1=2;cost 0;", 2);
         Due.due("0 without one", x.train(0, 1, 1000, 0), 50);
         Due.law(x, 0, "lift 20;drag fore+up+height+pitch+wind+side+soft+tip+tick;dip 1;drift 1;", 4);
@@ -200,6 +203,13 @@ final class ToldTest {
         Due.fault(x, 0, "over 1;", 1, 0);
         Due.fault(x, 1, "lift 1;", 1, 0);
         Due.fault(x, 3, "over 1;", 1, 0);
+        Due.fault(x, 0, "fore 1;", 1, 0);
+        Due.fault(x, 1, "force 1;", 1, 0);
+        Due.fault(x, 3, "balls 1;", 1, 0);
+        Due.fault(x, 0, ";".repeat(400), 1, 0);
+        Due.law(x, 0, " ".repeat(400), 0);
+        Due.law(x, 0, "lift 1" + "+1".repeat(196) + " ;", 1);
+        Due.fault(x, 0, "lift 1" + "+1".repeat(197), 1, 400);
         Due.fault(x, 0, "lift force;", 1, 5);
         Due.fault(x, 1, "over wind;", 1, 5);
         Due.fault(x, 3, "gain round;", 1, 5);
@@ -310,7 +320,7 @@ final class ToldTest {
         Due.due("the plan as it was", x.of(0, 6), 12);
         x.turnsGo(2);
         Due.due("ten left", x.of(0, 6), 10);
-        Due.plan(x, 0, "throw 99 at 60 with 0 pace 9 below 9999;pass;throw 0 at 0 with 0;", 3);
+        Due.plan(x, 0, "throw 99 at 60 with 0 pace 9 below 9999;pass;throw 0 at 0 with 0 pace 0;", 3);
         Due.due("from its first order", x.of(0, 6), 3);
         Due.due("two throws", x.turnsGo(3), 2);
         Due.due("force", x.book(0, 4), 99);
