@@ -476,8 +476,7 @@ public final class PointFirst {
             chances = new Chances();
         }
         for (int i = 0; i < Chances.FORCES; i++) {
-            int force = Math.min(Chances.choice(i), t.power);
-            int far = thought.goodFar(now, force, angle, spear, now.told[World.WIND]);
+            int far = thought.goodFar(now, Chances.choice(i), angle, spear, now.told[World.WIND]);
             chances.reaches[i] = far != NONE && far >= mark;
         }
         chances.weigh(now, t, throwsLeft, angle);
@@ -1694,17 +1693,26 @@ public final class PointFirst {
         private final int[][] known = new int[World.ROUNDS + 1][MOST_WEAR];
         private Law law;
         private int angle;
-        private int power;
+        /** How many of the forces he can choose: those above his POWER are left out. */
+        private int forces;
         private int thrown;
 
         static int choice(int i) {
             return 54 + 5 * i;
         }
 
+        private static int upTo(int power) {
+            int n = 0;
+            while (n < FORCES && choice(n) <= power) {
+                n++;
+            }
+            return n;
+        }
+
         void weigh(World w, Thrower t, int left, int byAngle) {
             law = w.arms;
             angle = byAngle;
-            power = t.power;
+            forces = upTo(t.power);
             thrown = t.thrown + left;
             arms.ask(t, w.round);
             for (int i = 0; i <= left && i < known.length; i++) {
@@ -1712,7 +1720,7 @@ public final class PointFirst {
             }
             most = 0;
             force = 0;
-            for (int i = 0; i < FORCES && left > 0 && t.wear < MOST_WEAR; i++) {
+            for (int i = 0; i < forces && left > 0 && t.wear < MOST_WEAR; i++) {
                 int chance = by(i, left, t.wear);
                 if (chance > most) {
                     most = chance;
@@ -1722,9 +1730,9 @@ public final class PointFirst {
         }
 
         private int by(int i, int left, int wear) {
-            arms.askThrow(Math.min(choice(i), power), 0, angle);
+            arms.askThrow(choice(i), 0, angle);
             arms.askState(wear, thrown - left);
-            int sure = i < FORCES && reaches[i] ? ALL - 1000 * arms.tell(law, Arms.OVER) : 0;
+            int sure = i >= 0 && i < FORCES && reaches[i] ? ALL - 1000 * arms.tell(law, Arms.OVER) : 0;
             int then = greatest(left - 1, Math.min(MOST_WEAR, wear + arms.tell(law, Arms.WEAR)));
             return sure + (int) ((long) (ALL - sure) * then / ALL);
         }
@@ -1737,7 +1745,7 @@ public final class PointFirst {
                 return known[left][wear];
             }
             int found = 0;
-            for (int i = 0; i < FORCES; i++) {
+            for (int i = 0; i < forces; i++) {
                 found = Math.max(found, by(i, left, wear));
             }
             known[left][wear] = found;

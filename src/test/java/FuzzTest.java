@@ -102,7 +102,7 @@ final class FuzzTest {
     }
 
     private boolean doThrower() {
-        int a = in(0, 99);
+        int a = random.nextInt(2) == 0 ? in(0, 99) : in(50, 99);
         return due("thrower(" + a + ")", x.thrower(a), y.thrower(a));
     }
 

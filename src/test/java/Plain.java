@@ -888,8 +888,8 @@ final class Plain {
             return new int[] {0, 0};
         }
         int i = 0;
-        for (int force = 54; force <= 99; force += 5) {
-            Map<String, Integer> m = arms(p, Math.min(force, p.power), 0, angle, s.round);
+        for (int force = 54; force <= p.power; force += 5) {
+            Map<String, Integer> m = arms(p, force, 0, angle, s.round);
             long sure = good[i++] ? 1000000 - ask("over", m) * 1000 : 0;
             Person q = p.copy();
             q.wear = Math.min(1000, q.wear + ask("wear", m));
@@ -911,7 +911,7 @@ final class Plain {
         }
         boolean[] good = new boolean[10];
         for (int i = 0; i < 10; i++) {
-            Air x = flight(Math.min(54 + 5 * i, p.power), angle, spear, s.wind);
+            Air x = flight(54 + 5 * i, angle, spear, s.wind);
             good[i] = x.good && x.far >= mark;
         }
         return chance(p.copy(), mark, throwsLeft, angle, spear, good)[what];

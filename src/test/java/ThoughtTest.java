@@ -444,18 +444,36 @@ final class ThoughtTest {
         Due.due("best 4, round 1", x.chance(0, 2600, 1, 30, 0, 0), 596000);
     }
 
-    /** A force is POWER at most, as a THROW's force is: it is still that one of the ten that was chosen. */
+    /** Forces above his POWER can't be chosen: they are left out, not held to it. */
     private static void chanceByPower() {
         PointFirst x = Due.ready();
         x.set(5, 0, 60);
-        Due.due("60", x.fly(60, 30, 0, 0, 0, 0, 0), 2945);
-        Due.due("60 comes so far", x.chance(0, 2945, 1, 30, 0, 0), 1000000);
-        Due.due("chosen is 64", x.chance(0, 2945, 1, 30, 0, 1), 64);
-        Due.due("not farther", x.chance(0, 2946, 1, 30, 0, 0), 0);
-        x.set(5, 0, 20);
-        Due.due("20", x.chance(0, 459, 1, 30, 0, 1), 54);
-        Due.law(x, 1, "over force;", 1);
-        Due.due("over by 20", x.chance(0, 459, 1, 30, 0, 0), 980000);
+        Due.due("59", x.chance(0, 2888, 1, 30, 0, 0), 1000000);
+        Due.due("by 59", x.chance(0, 2888, 1, 30, 0, 1), 59);
+        Due.due("60 would come so far", x.fly(60, 30, 0, 0, 0, 0, 0), 2945);
+        Due.due("but is none of them", x.chance(0, 2945, 6, 30, 0, 0), 0);
+        Due.due("none more is left", x.chance(0, 2945, 6, 30, 0, 1), 0);
+        // over by what a force above his POWER would be less often over
+        Due.law(x, 1, "over 900-force*10;", 1);
+        Due.due("59 is the hardest", x.chance(0, 0, 1, 30, 0, 1), 59);
+        Due.due("310 less", x.chance(0, 0, 1, 30, 0, 0), 690000);
+        x.set(5, 0, 59);
+        Due.due("59 is 59 at most", x.chance(0, 0, 1, 30, 0, 1), 59);
+        x.set(5, 0, 58);
+        Due.due("59 is above 58", x.chance(0, 0, 1, 30, 0, 1), 54);
+        x.set(5, 0, 54);
+        Due.due("54 is 54 at most", x.chance(0, 0, 1, 30, 0, 1), 54);
+        Due.due("360 less", x.chance(0, 0, 1, 30, 0, 0), 640000);
+        Due.due("and then again", x.chance(0, 0, 2, 30, 0, 0), 640000 + 360000L * 640000 / 1000000);
+        x.set(5, 0, 53);
+        Due.due("all are above 53", x.chance(0, 0, 6, 30, 0, 0), 0);
+        Due.due("none more by 53", x.chance(0, 0, 6, 30, 0, 1), 0);
+        x.set(5, 0, 99);
+        Due.due("99 is 99 at most", x.chance(0, 0, 1, 30, 0, 1), 94);
+        Due.law(x, 1, "over 999-force*10;", 1);
+        Due.due("99 is likeliest", x.chance(0, 0, 1, 30, 0, 1), 99);
+        x.set(5, 0, 98);
+        Due.due("99 is above 98", x.chance(0, 0, 1, 30, 0, 1), 94);
     }
 
     private static void waitFor() {
