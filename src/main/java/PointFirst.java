@@ -489,7 +489,7 @@ public final class PointFirst {
         }
         int second = NONE;
         int most = NONE;
-        for (int i = 0; i < now.gusts; i++) {
+        for (int i = 0; i < now.gusts && i < now.minute.length; i++) {
             int far = thought.goodFar(now, force, angle, spear, now.minute[i]);
             if (far > most) {
                 most = far;
@@ -754,11 +754,11 @@ public final class PointFirst {
         }
 
         boolean hasSpear(int spear) {
-            return spear >= 0 && spear < spears;
+            return spear >= 0 && spear < spears && spear < MOST_SPEARS;
         }
 
         boolean hasLine(int i) {
-            return i >= 0 && i < lines;
+            return i >= 0 && i < lines && i < MOST_LINES;
         }
 
         Thrower one(int who) {

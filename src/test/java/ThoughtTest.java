@@ -421,6 +421,7 @@ final class ThoughtTest {
         Due.due("0 of a million", x.chance(0, 2600, 6, 30, 0, 0), 0);
         Due.law(x, 1, "over 9999 when thrown=0;over 500;", 2);
         Due.due("over surely, then half", x.chance(0, 2600, 2, 30, 0, 0), 500000);
+        Due.due("over is 1000 at most", x.chance(0, 0, 2, 30, 0, 0), 500000);
         Due.law(x, 1, "over 1000 when force>54;over 500;", 2);
         Due.due("54 twice", x.chance(0, 2500, 2, 30, 0, 0), 750000);
         Due.law(x, 1, "over 1000-force*10;", 1);
