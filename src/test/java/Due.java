@@ -36,6 +36,7 @@ final class Due {
     }
 
     static int tell(PointFirst x, int k, int who, String text) {
+        x.end(0);
         put(x, 0, text);
         return x.text(k, who);
     }
