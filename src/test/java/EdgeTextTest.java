@@ -37,6 +37,7 @@ final class EdgeTextTest {
         wraps();
         towardsZero();
         firstLine();
+        longLaws();
         Due.finish();
     }
 
@@ -563,5 +564,27 @@ final class EdgeTextTest {
             Due.due("text <" + laws[i] + ">", Due.tell(x, 3, 0, laws[i]) > 0, true);
             Due.due("gain of <" + laws[i] + ">", x.train(0, 1, 1000, 0), 50 + want[i]);
         }
+    }
+
+    /** What waits the most: in each of eight ( an or and an and, in the deepest a sum and a product; and sixteen lines. */
+    private static void longLaws() {
+        PointFirst x = Due.ready();
+        x.set(5, 0, 50);
+        String deep = "1=2 or 1=1 and (".repeat(8) + "1=2 or 1=1 and 3+2*3=1+2*4" + ")".repeat(8);
+        so(x, deep, true);
+        so(x, deep.replace("2*4", "2*5"), false);
+        so(x, "not not not not not not not not 1=2 or 1=1 and not 1=2", true);
+        Due.law(x, 3, "gain 2 when 1+1=1;cost 3;".repeat(7) + "gain 4 when 2+2*2=6 and 1=2 or 1=1;gain 5;", 16);
+        Due.due("the fifteenth", x.train(0, 1, 1000, 0), 54);
+        Due.law(x, 3, "gain 1*2+3*4-5*6 when 1+2=3 and 4<3;".repeat(10) + "gain 7;", 11);
+        Due.due("the eleventh", x.train(0, 1, 1000, 0), 57);
+        Due.law(x, 3, "gain 0" + "+1".repeat(185) + "-9*9-9*9-9*2-1;", 1);
+        Due.due("185 less 162 less 18 less 1", x.train(0, 1, 1000, 0), 54);
+        Due.law(x, 3, "gain 1" + "*1".repeat(190) + "+1;", 1);
+        Due.due("1 and 1", x.train(0, 1, 1000, 0), 52);
+        Due.law(x, 3, "gain 1 when 1=2" + " or 1=2".repeat(50) + " or 1=1;", 1);
+        Due.due("the last or", x.train(0, 1, 1000, 0), 51);
+        Due.law(x, 3, "gain 1 when 1=1" + " and 1=1".repeat(45) + " and 1=2;", 1);
+        Due.due("the last and", x.train(0, 1, 1000, 0), 50);
     }
 }

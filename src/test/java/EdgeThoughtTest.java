@@ -26,6 +26,7 @@ final class EdgeThoughtTest {
         trainHeld();
         trainWeeks();
         trainTies();
+        trainByEachWear();
         would();
         wouldByRounds();
         wouldAsked();
@@ -112,12 +113,17 @@ final class EdgeThoughtTest {
         PointFirst y = but("pitch=100");
         y.set(3, 0, 9);
         Due.due("0 is safe where it is held to 0", y.angle(0, 0, 0, 2), 0);
+        y = but("pitch=0");
+        for (int slip = 0; slip <= 9; slip++) {
+            y.set(3, 0, slip);
+            Due.due("held to 0, which is not GOOD, by slip " + slip, y.angle(0, 0, 0, 2), slip + 1);
+        }
     }
 
     private static void safe() {
         String[] buts = {"pitch<51", "pitch<52", "pitch>9", "pitch>8", "pitch=69", "pitch=0", "pitch=9 or pitch=28",
             "pitch=9 or pitch=29"};
-        int[] least = {60, -1, 0, -1, 0, 10, -1, 0};
+        int[] least = {60, -1, 0, -1, 0, 10, 38, 0};
         int[] most = {60, -1, 0, -1, 59, 60, 60, 60};
         for (int k = 0; k < buts.length; k++) {
             PointFirst x = but(buts[k]);
@@ -125,9 +131,10 @@ final class EdgeThoughtTest {
             int at = x.angle(50, 0, 0, 2);
             if (least[k] == most[k]) {
                 Due.due("SAFE but " + buts[k], at, least[k]);
-            } else if (k != 6) {
+            } else {
                 Due.due("SAFE but " + buts[k] + " is one of them", at >= least[k] && at <= most[k], true);
             }
+            Due.due("its least but " + buts[k], x.angle(50, 0, 0, 3), at < 0 ? -1 : leastAround(at, 9));
         }
         // of 10 .. 27 there are 18: too few for 19; from 10 to 28 there are 19, and 19 is in their midst
         PointFirst x = but("pitch<10 or pitch>27");
@@ -145,6 +152,14 @@ final class EdgeThoughtTest {
         Due.due("and as far", x.angle(50, 0, 0, 3), x.angle(50, 0, 0, 1));
     }
 
+    private static int leastAround(int a, int slip) {
+        int least = Integer.MAX_VALUE;
+        for (int s = -slip; s <= slip; s++) {
+            least = Math.min(least, far(50, Math.max(0, a + s)));
+        }
+        return least;
+    }
+
     private static void safeIsTheGreatestLeast() {
         PointFirst x = but("pitch=100");
         for (int slip = 0; slip <= 9; slip++) {
@@ -152,17 +167,15 @@ final class EdgeThoughtTest {
             int best = -1;
             int at = -1;
             for (int a = 0; a <= 60; a++) {
-                int least = Integer.MAX_VALUE;
-                for (int s = -slip; s <= slip; s++) {
-                    least = Math.min(least, far(50, Math.max(0, a + s)));
-                }
-                if (least > best) {
-                    best = least;
+                if (leastAround(a, slip) > best) {
+                    best = leastAround(a, slip);
                     at = a;
                 }
             }
             Due.due("SAFE by slip " + slip, x.angle(50, 0, 0, 2), at);
             Due.due("its least by slip " + slip, x.angle(50, 0, 0, 3), best);
+            Due.due("ANGLE asks no slips", far(50, x.angle(50, 0, 0, 0)), x.angle(50, 0, 0, 1));
+            Due.due("nor its far by slip " + slip, x.angle(50, 0, 0, 1) >= best + slip, true);
         }
     }
 
@@ -451,6 +464,19 @@ final class EdgeThoughtTest {
         Due.due("99 is above POWER", x.chance(0, 0, 2, 0, 0, 1), 54);
         x.set(5, 0, 53);
         Due.due("all are", x.chance(0, 0, 2, 0, 0, 1), 0);
+        x.set(5, 0, 54);
+        Due.law(x, 1, "over 500;", 1);
+        Due.due("54 and 54 again", x.chance(0, 0, 2, 0, 0, 0), 750000);
+        x.set(5, 0, 58);
+        Due.due("59 is above 58 in each throw", x.chance(0, 18 * 59, 6, 0, 0, 0), 0);
+        x.set(5, 0, 99);
+        Due.law(x, 1, "over 1000 when thrown=0;over 500;", 2);
+        Due.due("one in vain, by the first that there is", x.chance(0, 18 * 60, 2, 0, 0, 1), 54);
+        Due.due("then half", x.chance(0, 18 * 60, 2, 0, 0, 0), 500000);
+        Due.law(x, 1, "over 1001 when thrown=0;over 500;", 2);
+        Due.due("over is 1000 at most", x.chance(0, 0, 2, 0, 0, 0), 500000);
+        Due.law(x, 1, "over 1000 when thrown<2;wear 0 when thrown=0;wear 1000 when force>53;", 3);
+        Due.due("there is no softer one than 54", x.chance(0, 0, 3, 0, 0, 0), 0);
     }
 
     /** By force 20 and angle 0 a wind w comes 331 less w far, and 30 the other way none does. */
@@ -675,6 +701,35 @@ final class EdgeThoughtTest {
         Due.due("all at once", x.train(0, 1, 100, 1), 2);
         x.set(5, 0, 99);
         Due.due("99 in any way", x.train(0, 12, 1000, 1), 0);
+    }
+
+    /** Every WEAR and every POWER holds what it is. */
+    private static void trainByEachWear() {
+        for (int from = 0; from <= 1000; from += 91) {
+            PointFirst x = Due.ready();
+            for (int wear = from; wear <= 1000 && wear < from + 91; wear++) {
+                x.set(6, 0, wear);
+                Due.due("WEAR " + wear, x.train(0, 2, wear, 0), 99);
+                Due.due("not below " + wear, x.train(0, 2, wear - 1, 0), -1);
+                Due.due("none thrown by WEAR " + wear, x.train(0, 2, wear, 1), 0);
+            }
+        }
+        PointFirst x = Due.ready();
+        for (int power = 0; power <= 99; power++) {
+            x.set(5, 0, power);
+            x.set(6, 0, power * 10);
+            Due.due("POWER " + power, x.train(0, 12, 990, 0), power);
+        }
+        x.set(5, 0, 50);
+        x.set(6, 0, 0);
+        Due.law(x, 3, "gain 5 when wearing=0;cost 0-1;", 2);
+        Due.due("WEAR 0 stays 0", x.train(0, 3, 1000, 0), 65);
+        Due.law(x, 3, "cost 100-balls*100;", 1);
+        Due.due("of several the least, though it wears more", x.train(0, 1, 1000, 1), 0);
+        Due.due("but not above that WEAR", x.train(0, 1, 99, 1), 1);
+        Due.law(x, 3, "gain 1 when wearing=200 or week=0;cost balls*100 when week=0;cost 0;", 3);
+        Due.due("which of them led there", x.train(0, 2, 1000, 1), 2);
+        Due.due("that far", x.train(0, 2, 1000, 0), 52);
     }
 
     private static void would() {

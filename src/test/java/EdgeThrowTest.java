@@ -16,8 +16,10 @@ final class EdgeThrowTest {
         slipHeld();
         gusts();
         askedOfArms();
+        bestByHundred();
         wear();
         hows();
+        landings();
         bestIsMore();
         hundredLines();
         turns();
@@ -34,6 +36,7 @@ final class EdgeThrowTest {
         undoForgets();
         undoKeeps();
         image();
+        imageHoldsAll();
         imageLeavesOut();
         Due.finish();
     }
@@ -290,6 +293,28 @@ final class EdgeThrowTest {
         Due.due("and then", y.of(0, 1), 100 + 40 + 1);
     }
 
+    /** BEST by 100, downwards: 396 and 399 are 3, 400 and 403 are 4. */
+    private static void bestByHundred() {
+        int[] drags = {18, 15, 14, 11};
+        int[] bests = {396, 399, 400, 403};
+        for (int k = 0; k < 4; k++) {
+            PointFirst x = Due.ready();
+            Due.law(x, 0, "dip 5;drag " + drags[k] + " when tick=5;", 2);
+            x.throwIt(23, 0, 0, 0);
+            Due.due("BEST", x.of(0, 2), bests[k]);
+            x.set(6, 0, 100);
+            Due.law(x, 1, "mend best;wear best*10;over 250*best;", 3);
+            Due.due("HOLDS by best", x.holds(0, 0, 0), bests[k] < 400 ? 30 : 23);
+            Due.due("RESTS by best", x.rests(0, 100 - bests[k] / 100), 1);
+            Due.due("not less than a DAY", x.rests(0, 99), 1);
+            Due.due("CHANCE by best", x.chance(0, 0, 1, 0, 0, 0), bests[k] < 400 ? 250000 : 0);
+            x.days(1);
+            Due.due("mend by best", x.of(0, 1), 100 - bests[k] / 100);
+            x.throwIt(1, 0, 0, 0);
+            Due.due("wear by best", x.of(0, 1), 100 + 9 * (bests[k] / 100));
+        }
+    }
+
     /** Two were thrown, one turn passed: ROUND 3, BEST 459. */
     private static PointFirst third() {
         PointFirst x = Due.ready();
@@ -340,6 +365,30 @@ final class EdgeThrowTest {
                 Due.due("can be undone", x.look(9), 1);
             }
         }
+    }
+
+    /** By angle 0 and lie 0 the pitch it lands with is less what it dipped: -1, 0, 9, 10. */
+    private static void landings() {
+        PointFirst x = Due.ready();
+        String[] laws = {"dip 1 when tick=0;", "dip 0;", "dip 0-9 when tick=0;", "dip 0-5 when tick<2;"};
+        int[] hows = {0, 2, 2, 3};
+        for (int k = 0; k < 4; k++) {
+            Due.law(x, 0, laws[k], 1);
+            Due.due("HOW by " + laws[k], x.throwIt(10, 0, 0, 0), hows[k]);
+        }
+        PointFirst y = Due.ready();
+        y.set(4, 0, 6);
+        Due.law(y, 0, "dip 5;drift 5 when tick=0;", 2);
+        Due.due("30 off by 6 is 180", y.throwIt(10, 0, 0, 0), 0);
+        y.set(4, 0, 7);
+        Due.due("30 off by 7 is 210", y.throwIt(10, 0, 0, 0), 4);
+        Due.law(y, 0, "dip 5;drift 0-5 when tick=0;", 2);
+        Due.due("to the other side", y.throwIt(10, 0, 0, 0), 4);
+        Due.law(y, 0, "dip 5;drift side when tick=0;", 2);
+        y.set(1, 0, 4);
+        Due.due("24 off by 7 is 168", y.throwIt(10, 0, 0, 0), 0);
+        y.set(1, 0, 5);
+        Due.due("by SIDE", y.throwIt(10, 0, 0, 0), 4);
     }
 
     private static void bestIsMore() {
@@ -805,6 +854,56 @@ final class EdgeThrowTest {
         x.throwIt(30, 30, 0, 0);
         Due.due("the same draw", x.book(2, 5), angle);
         Due.due("the same STATE", x.look(6), state);
+    }
+
+    /** All else that is and was told is of it: whatever is told and done, it goes back, and more than once. */
+    private static void imageHoldsAll() {
+        PointFirst y = Rich.make();
+        y.image(true);
+        y.image(false);
+        long[] want = Rich.seen(y);
+        for (int times = 1; times <= 3; times++) {
+            PointFirst x = Rich.make();
+            x.image(true);
+            for (int n = 0; n < times; n++) {
+                change(x);
+                Due.due("back", x.image(false), true);
+            }
+            Due.tell(x, 0, 0, "lift 1/0;");
+            Due.put(x, 0, "gain 1;cost 2;");
+            long[] got = Rich.seen(x);
+            for (int k = 0; k < want.length; k++) {
+                Due.due("back for the time " + times + ", seen " + k, got[k], want[k]);
+            }
+        }
+    }
+
+    private static void change(PointFirst x) {
+        Due.tell(x, 0, 0, "drag 3;dip 1;lift 2;drift 1;dip 9;");
+        Due.tell(x, 1, 0, "mend 1;wear 9;over 3;");
+        Due.tell(x, 3, 0, "cost 7;gain 2;gain 3;");
+        Due.tell(x, 2, 0, "pass;pass;throw 9 at 9 with 1;");
+        Due.tell(x, 2, 1, "throw 8 at 8 with 0 pace 8 below 8;");
+        Due.tell(x, 2, 2, "throw 7 at 7 with 0;");
+        for (int k = 0; k < 5; k++) {
+            x.set(k, 0, 9 - k);
+        }
+        for (int k = 0; k < 3; k++) {
+            x.set(5, k, 11 * k);
+            x.set(6, k, 12 * k);
+        }
+        x.state(-1);
+        x.gust(-100);
+        x.gust(11);
+        x.gust(12);
+        x.gust(13);
+        x.spear(8, 8);
+        x.turnsGo(7);
+        x.meet();
+        x.thrower(77);
+        x.days(4);
+        x.turnsGo(6);
+        x.throwIt(1, 2, 2, 3);
     }
 
     /** The TAPE, fault() and what can be undone are not of it. */
