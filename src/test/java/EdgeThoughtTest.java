@@ -479,7 +479,7 @@ final class EdgeThoughtTest {
         Due.due("there is no softer one than 54", x.chance(0, 0, 3, 0, 0, 0), 0);
     }
 
-    /** By force 20 and angle 0 a wind w comes 331 less w far, and 30 the other way none does. */
+    /** By force 20 and angle 0 a wind w comes 331 less w far. */
     private static void waitFor() {
         PointFirst x = Due.ready();
         Due.law(x, 0, "dip 5;drag wind+29 when tick=5;", 2);

@@ -1,3 +1,5 @@
+import java.util.Arrays;
+
 /** An object with something of everything, all that can be seen of one, and calls that must leave it as it is. */
 final class Rich {
     /** A call, a boolean counted 1 or 0. */
@@ -142,7 +144,7 @@ final class Rich {
         }
 
         private long[] all() {
-            return java.util.Arrays.copyOf(v, n);
+            return Arrays.copyOf(v, n);
         }
     }
 }
